@@ -24,7 +24,6 @@ public final class Nodewash {
     private final Tree tree;
     private final Judge judge;
     private final Node draft;
-    private final int[] sizes;
 
     public Nodewash() {
         flash = new Flash();
@@ -32,7 +31,6 @@ public final class Nodewash {
         tree = new Tree();
         judge = new Judge(flash, tree);
         draft = new Node();
-        sizes = new int[PLACES];
     }
 
     // ---- files and directories
@@ -156,12 +154,7 @@ public final class Nodewash {
             throw new IllegalStateException("no block is closed");
         }
         int copies = judge.choose(block);
-        for (int i = 0; i < copies && i < sizes.length; i++) {
-            sizes[i] = judge.chosenAt(i).units;
-        }
-        if (!log.hasRoom(sizes, copies, log.freeCount)) {
-            throw new IllegalStateException("there is no room for the copies");
-        }
+        refuseWithoutRoomFor(copies);
         for (int i = 0; i < copies; i++) {
             if (!log.put(judge.chosenAt(i))) {
                 return DARK;
@@ -369,10 +362,18 @@ public final class Nodewash {
 
     /** The second size is 0 if only one node is to be written. */
     private void refuseWithoutRoom(int first, int second) {
-        sizes[0] = first;
-        sizes[1] = second;
-        if (!log.hasRoom(sizes, second == 0 ? 1 : 2, log.freeCount - 1)) {
+        log.beginTrial(log.freeCount - 1);
+        if (!log.takesInTrial(first) || second != 0 && !log.takesInTrial(second)) {
             throw new IllegalStateException("there is no room");
+        }
+    }
+
+    private void refuseWithoutRoomFor(int copies) {
+        log.beginTrial(log.freeCount);
+        for (int i = 0; i < copies; i++) {
+            if (!log.takesInTrial(judge.chosenAt(i).units)) {
+                throw new IllegalStateException("there is no room for the copies");
+            }
         }
     }
 
@@ -512,7 +513,10 @@ public final class Nodewash {
 
         /** Whether it settles what this name is, or what is at this place of the file. */
         boolean settles(int key) {
-            return kind == NAME ? spot == key : key >= size || laysAt(key);
+            if (kind == NAME) {
+                return spot == key;
+            }
+            return key >= size || key >= spot && key - spot < byteCount;
         }
 
         int byteFor(int place) {
@@ -692,6 +696,9 @@ public final class Nodewash {
         private int current = NONE;
         private int freeCount;
         private int closedCount;
+        private int trialUsed;
+        private int trialNodes;
+        private int trialFree;
 
         Log(Flash itsFlash) {
             flash = itsFlash;
@@ -756,22 +763,25 @@ public final class Nodewash {
             return used + units + 1 + count + 1 <= BLOCK_UNITS;
         }
 
-        boolean hasRoom(int[] sizes, int count, int freeBlocks) {
-            int used = current == NONE ? BLOCK_UNITS : flash.usedOf(current);
-            int nodesThere = flash.countOf(current);
-            int spare = freeBlocks;
-            for (int i = 0; i < count && i < sizes.length; i++) {
-                if (!fits(used, nodesThere, sizes[i])) {
-                    if (spare <= 0) {
-                        return false;
-                    }
-                    spare--;
-                    used = 1;
-                    nodesThere = 0;
+        /** Begins to count how nodes would be written, with so many of the free blocks. */
+        void beginTrial(int freeBlocks) {
+            trialUsed = current == NONE ? BLOCK_UNITS : flash.usedOf(current);
+            trialNodes = flash.countOf(current);
+            trialFree = freeBlocks;
+        }
+
+        /** Whether a node of so many units has room behind those of the trial so far. */
+        boolean takesInTrial(int units) {
+            if (!fits(trialUsed, trialNodes, units)) {
+                if (trialFree <= 0) {
+                    return false;
                 }
-                used += sizes[i];
-                nodesThere++;
+                trialFree--;
+                trialUsed = 1;
+                trialNodes = 0;
             }
+            trialUsed += units;
+            trialNodes++;
             return true;
         }
 
@@ -1115,12 +1125,13 @@ public final class Nodewash {
 
         /** The state of a closed block. */
         int dirtOf(int block) {
-            int deadOnes = deadUnits(block);
+            int deadOnes = 0;
             int all = 0;
             for (int place = 0; place < flash.countOf(block); place++) {
                 Node node = flash.at(block, place);
                 if (node.kind != SUMMARY || !node.isWhole()) {
                     all += node.present;
+                    deadOnes += isDead(node) ? node.present : 0;
                 }
             }
             if (deadOnes == 0) {
