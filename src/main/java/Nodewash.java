@@ -17,7 +17,7 @@ public final class Nodewash {
     private static final int MOST_BYTES = 8;
     private static final int LAST_DRAW = 127;
     private static final int LAST_CUT = 1000;
-    private static final int ANY_VERSION = Integer.MAX_VALUE;
+    private static final int ANY_VERSION = 2147483647;
 
     private final Flash flash;
     private final Log log;
@@ -177,14 +177,14 @@ public final class Nodewash {
         for (int block = 0; block < BLOCKS; block++) {
             read += unitsToRead(block, bySummaries);
         }
-        flash.isDark = false;
+        flash.dark = false;
         log.restart();
         tree.restart(flash);
         return log.eraseBroken() ? read : DARK;
     }
 
     public boolean isDark() {
-        return flash.isDark;
+        return flash.dark;
     }
 
     // ---- what is there
@@ -286,7 +286,7 @@ public final class Nodewash {
     // ---- what is refused
 
     private void refuseInDark() {
-        if (flash.isDark) {
+        if (flash.dark) {
             throw new IllegalStateException("it is dark");
         }
     }
@@ -542,7 +542,7 @@ public final class Nodewash {
         private final int[] erasures = new int[BLOCKS];
         private final Node nowhere = new Node();
         private int unitsLeft = NONE;
-        private boolean isDark;
+        private boolean dark;
 
         Flash() {
             for (int block = 0; block < BLOCKS; block++) {
@@ -628,7 +628,7 @@ public final class Nodewash {
         boolean spend() {
             if (unitsLeft == 0) {
                 unitsLeft = NONE;
-                isDark = true;
+                dark = true;
                 return false;
             }
             if (unitsLeft > 0) {
