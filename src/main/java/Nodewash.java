@@ -425,6 +425,8 @@ public final class Nodewash {
         private int spot;
         private int byteCount;
         private long bytes;
+        /** A bit for each place of the file at which it lays a byte. */
+        private long laid;
         private int size;
         private int target;
         private boolean toDirectory;
@@ -441,6 +443,7 @@ public final class Nodewash {
             spot = 0;
             byteCount = 0;
             bytes = 0;
+            laid = 0;
             size = 0;
             target = 0;
             toDirectory = false;
@@ -461,6 +464,7 @@ public final class Nodewash {
         void giveBytes(long newBytes, int n) {
             bytes = newBytes;
             byteCount = n;
+            laid = (1L << n) - 1 << spot;
             units = DATA_UNITS + n;
         }
 
@@ -481,18 +485,22 @@ public final class Nodewash {
             units = 1 + count;
         }
 
+        /** Becomes a copy of which no unit is written yet. */
         void copyFrom(Node other) {
-            clear();
             kind = other.kind;
             units = other.units;
+            present = 0;
             number = other.number;
             version = other.version;
             spot = other.spot;
             byteCount = other.byteCount;
             bytes = other.bytes;
+            laid = other.laid;
             size = other.size;
             target = other.target;
             toDirectory = other.toDirectory;
+            dead = false;
+            passed = false;
         }
 
         boolean isWhole() {
@@ -523,14 +531,9 @@ public final class Nodewash {
             return laysAt(place) ? (int) (bytes >>> 8 * (place - spot)) & 255 : 0;
         }
 
-        /** A bit for each place of the file at which it lays a byte. */
-        long laidPlaces() {
-            return (1L << byteCount) - 1 << spot;
-        }
-
         /** A bit for each place of the file that it settles. */
         long settledPlaces() {
-            return size >= LONGEST ? laidPlaces() : laidPlaces() | -1L << size;
+            return size >= LONGEST ? laid : laid | -1L << size;
         }
     }
 
@@ -1029,7 +1032,8 @@ public final class Nodewash {
         /** Begins anew with what the whole nodes tell. */
         void restart(Flash flash) {
             empty();
-            for (int i = 0; i < count; i++) {
+            // Those that are found come behind the ones that are being read.
+            for (int i = 0; i < count && i < MOST; i++) {
                 Item item = item(i);
                 if (item != null && item.directory) {
                     readNames(item, flash);
@@ -1102,7 +1106,7 @@ public final class Nodewash {
             }
             // A place behind the longest file is settled by each DATA node.
             return flash.newest(DATA, node.number, LONGEST, ANY_VERSION) == node
-                    || (node.laidPlaces() & ~flash.settledByNewer(node)) != 0;
+                    || (node.laid & ~flash.settledByNewer(node)) != 0;
         }
 
         private boolean isDead(Node node) {

@@ -415,8 +415,8 @@ public final class NodewashPromisesTest {
         }
         due("state(1)", Nodewash.DIRTY, () -> x.state(1));
         due("dead(1)", 13, () -> x.dead(1));
-        due("toCopy(1): five names, the one without a target, not that of the file", 6, () -> x.toCopy(1));
         due("toCopy(0): the directory's name", 1, () -> x.toCopy(0));
+        due("toCopy(1): five names, the one without a target, not that of the file", 6, () -> x.toCopy(1));
         due("collect(64)", 1, () -> x.collect(64));
         due("lookUp(1, 1)", Nodewash.NONE, () -> x.lookUp(1, 1));
         due("mount(false)", x.mount(true), () -> x.mount(true));
@@ -450,6 +450,63 @@ public final class NodewashPromisesTest {
         due("byteByNodes(2, 4)", 0, () -> x.byteByNodes(2, 4));
         x.mount(false);
         due("byteAt(2, 9)", 0, () -> x.byteAt(2, 9));
+    }
+
+    /** A shorter length that hides nothing but zeros is not missed. */
+    private static void hidingZeros() {
+        promise = 23;
+        for (int value = 0; value < 2; value++) {
+            Nodewash x = new Nodewash();
+            x.create(1, 1);
+            x.write(2, 0, (long) value << 56, 8);
+            x.truncate(2, 4);
+            x.truncate(2, 8);
+            due("dead(0)", 4, () -> x.dead(0));
+            due("toCopy(0)", 3 + value, () -> x.toCopy(0));
+            due("toCopy(0) again", 3 + value, () -> x.toCopy(0));
+        }
+    }
+
+    /** Copies that a loss of power left: only the first one is live, and one of them is enough. */
+    private static void copies() {
+        promise = 22;
+        Nodewash x = new Nodewash();
+        x.create(1, 1);
+        x.write(2, 0, -1L, 8);
+        for (int i = 2; i < 8; i++) {
+            x.makeDirectory(1, i);
+        }
+        due("a block that is full to the last unit", 40, () -> x.written(0));
+        due("its SUMMARY", 8 + 1, () -> x.nodes(0));
+        x.cut(13);
+        due("collect(0)", Nodewash.DARK, () -> x.collect(0));
+        x.mount(false);
+        due("dead(0)", 2, () -> x.dead(0));
+        due("dead(1): two copies", 13, () -> x.dead(1));
+        promise = 23;
+        due("toCopy(1)", 1, () -> x.toCopy(1));
+        due("toCopy(0)", 7, () -> x.toCopy(0));
+        promise = 9;
+        due("collect(64)", 0, () -> x.collect(64));
+        due("byteByNodes(2, 7)", 255, () -> x.byteByNodes(2, 7));
+        due("names(1)", 7, () -> x.names(1));
+        due("dead(1): the copies of the copies", 13, () -> x.dead(1));
+    }
+
+    /** Garbage may take the last free block, the other methods may not. */
+    private static void roomForGarbage() {
+        promise = 9;
+        Nodewash x = new Nodewash();
+        for (int i = 1; i < 64; i++) {
+            x.makeDirectory(1, i);
+        }
+        refused("no room", STATE, () -> x.makeDirectory(1, 64));
+        refused("no room for unlink", STATE, () -> x.unlink(1, 1));
+        due("state(7)", Nodewash.FREE, () -> x.state(7));
+        due("collect(120)", 0, () -> x.collect(120));
+        due("state(7) then", Nodewash.CURRENT, () -> x.state(7));
+        due("state(0) then", Nodewash.FREE, () -> x.state(0));
+        due("names(1)", 63, () -> x.names(1));
     }
 
     private static void collectWithoutPower() {
@@ -558,6 +615,52 @@ public final class NodewashPromisesTest {
         x.truncate(2, 4);
         due("and is written on", 2, () -> x.nodes(1));
         due("version behind the greatest whole one", 3002021L, () -> x.node(1, 1));
+    }
+
+    /** A block with a SUMMARY is closed; one with room for a node of 2 units, but of no more, is not. */
+    private static void mountOpen() {
+        promise = 11;
+        Nodewash x = new Nodewash();
+        x.create(1, 1);
+        for (int i = 0; i < 5; i++) {
+            x.write(2, 0, i, 8);
+        }
+        due("the SUMMARY", 53L, () -> x.node(0, 4));
+        due("written(0)", 31, () -> x.written(0));
+        due("written(1)", 31, () -> x.written(1));
+        x.mount(true);
+        due("state(0)", Nodewash.VERY_DIRTY, () -> x.state(0));
+        due("state(1)", Nodewash.CURRENT, () -> x.state(1));
+        Nodewash y = new Nodewash();
+        y.create(1, 1);
+        for (int i = 2; i < 9; i++) {
+            y.makeDirectory(1, i);
+        }
+        y.mount(false);
+        due("room for 2 units", Nodewash.CURRENT, () -> y.state(0));
+        y.truncate(2, 0);
+        due("written(0)", 29, () -> y.written(0));
+        y.mount(false);
+        due("no room for 2 units", Nodewash.DIRTY, () -> y.state(0));
+        y.truncate(2, 0);
+        due("without a SUMMARY", 10, () -> y.nodes(0));
+    }
+
+    private static void mountNumbers() {
+        promise = 11;
+        Nodewash x = small();
+        x.link(1, 3, 3);
+        x.mount(false);
+        due("a link is that of a file", 0, () -> yes(x.isDirectory(3)));
+        due("links(3)", 2, () -> x.links(3));
+        x.unlink(1, 3);
+        due("the version of a NAME node", 4001032L, () -> x.node(0, 7));
+        Nodewash y = new Nodewash();
+        y.makeDirectory(1, 1);
+        y.unlink(1, 1);
+        y.mount(true);
+        due("the number behind a target", 3, () -> y.makeDirectory(1, 1));
+        due("the version behind both", 3001032L, () -> y.node(0, 2));
     }
 
     private static void isDark() {
@@ -798,11 +901,16 @@ public final class NodewashPromisesTest {
         freeRow();
         hiding();
         hidingBytes();
+        hidingZeros();
+        copies();
+        roomForGarbage();
         collectWithoutPower();
         cut();
         mount();
         mountErases();
         mountCurrent();
+        mountOpen();
+        mountNumbers();
         isDark();
         lookUp();
         names();
