@@ -467,6 +467,24 @@ public final class NodewashPromisesTest {
         }
     }
 
+    /** What was passed over stands there until the block is erased: it still keeps others dead. */
+    private static void deadUntilErased() {
+        promise = 23;
+        Nodewash x = new Nodewash();
+        x.create(1, 1);
+        x.write(2, 0, 0xFFFFFFFFL, 8);
+        for (int i = 2; i < 7; i++) {
+            x.makeDirectory(1, i);
+        }
+        x.truncate(2, 4);
+        x.truncate(2, 8);
+        due("collect(64)", 0, () -> x.collect(64));
+        x.write(2, 0, 1L, 4);
+        due("node(1, 3)", 2002101L, () -> x.node(1, 3));
+        due("dead(1)", 2 + 2 + 10, () -> x.dead(1));
+        due("toCopy(1): five names alone", 5, () -> x.toCopy(1));
+    }
+
     /** Copies that a loss of power left: only the first one is live, and one of them is enough. */
     private static void copies() {
         promise = 22;
@@ -653,8 +671,10 @@ public final class NodewashPromisesTest {
         x.mount(false);
         due("a link is that of a file", 0, () -> yes(x.isDirectory(3)));
         due("links(3)", 2, () -> x.links(3));
-        x.unlink(1, 3);
+        x.unlink(1, 2);
         due("the version of a NAME node", 4001032L, () -> x.node(0, 7));
+        x.mount(true);
+        due("the link alone is that of a file", 0, () -> yes(x.isDirectory(3)));
         Nodewash y = new Nodewash();
         y.makeDirectory(1, 1);
         y.unlink(1, 1);
@@ -902,6 +922,7 @@ public final class NodewashPromisesTest {
         hiding();
         hidingBytes();
         hidingZeros();
+        deadUntilErased();
         copies();
         roomForGarbage();
         collectWithoutPower();
