@@ -350,6 +350,22 @@ public final class NodewashBoundariesTest {
             refused("byteByNodes(2, 64)", INDEX, () -> x.byteByNodes(2, 64));
             x.mount(round == 0);
         }
+        sentence = "New bytes are 0, even if no node is left that says so";
+        Nodewash z = new Nodewash();
+        z.create(1, 1);
+        z.truncate(2, 9);
+        for (int i = 0; i < 3; i++) {
+            z.create(1, 2 + i);
+        }
+        z.link(1, 9, 2);
+        z.makeDirectory(1, 10);
+        due("its first node is not copied", z.nodes(0) - 2, () -> z.toCopy(0));
+        due("collect(0)", 0, () -> z.collect(0));
+        due("byteByNodes(2, 8)", 0, () -> z.byteByNodes(2, 8));
+        due("byteByNodes(2, 0)", 0, () -> z.byteByNodes(2, 0));
+        refused("byteByNodes(2, 9)", INDEX, () -> z.byteByNodes(2, 9));
+        z.mount(true);
+        due("byteAt(2, 8)", 0, () -> z.byteAt(2, 8));
         sentence = "The content of a file that is there is empty at first";
         Nodewash y = new Nodewash();
         y.create(1, 1);
@@ -628,6 +644,14 @@ public final class NodewashBoundariesTest {
             due("isDark after " + what, yes(goes), () -> yes(x.isDark()));
             due("written(0) after " + what, 21 + Math.min(units, all), () -> x.written(0));
             due("the cut after " + what, goes ? Nodewash.NONE : units - all, () -> x.cut(Nodewash.NONE));
+            Nodewash without = small();
+            if (units >= all) {
+                way.call(without);
+            } else if (what.equals("rename") && units >= 3) {
+                without.link(2, 9, 3);
+            }
+            x.mount(units % 2 == 0);
+            tell("what is there after a mount, " + what + " with " + units, tree(x), tree(without));
         }
     }
 
@@ -1504,6 +1528,17 @@ public final class NodewashBoundariesTest {
         due("dead(0)", 2 + 7 + 3 + 3 + 3 + 3 + 3, () -> x.dead(0));
         x.mount(false);
         tell("what is there", tree(x), "\n1/1: 2 1\n2/99: 4 1");
+        sentence = "rename: the new name is written first, then the old one is taken away";
+        Nodewash half = small();
+        half.create(1, 5);
+        half.cut(3);
+        due("rename onto a file", Nodewash.DARK, () -> half.rename(1, 2, 1, 5));
+        half.mount(true);
+        refused("that file is gone", INDEX, () -> half.length(5));
+        due("lookUp(1, 5)", 3, () -> half.lookUp(1, 5));
+        due("lookUp(1, 2)", 3, () -> half.lookUp(1, 2));
+        due("links(3)", 2, () -> half.links(3));
+        refused("both name the same number", STATE, () -> half.rename(1, 2, 1, 5));
         sentence = "rename: nothing has the old name, both name the same number";
         Nodewash y = small();
         y.link(2, 9, 3);
@@ -1566,6 +1601,12 @@ public final class NodewashBoundariesTest {
         x.write(2, 2, 0x7171717171L, 3);
         tell("three of eight", x.byteAt(2, 1) + " " + x.byteAt(2, 2) + " " + x.byteAt(2, 4) + " " + x.byteAt(2, 5),
                 "135 113 113 131");
+        Nodewash y = new Nodewash();
+        y.create(1, 1);
+        y.write(2, 0, 0xFFFFL, 1);
+        y.truncate(2, 2);
+        tell("the byte behind them is not written", y.byteAt(2, 0) + " " + y.byteAt(2, 1) + " " + y.byteByNodes(2, 1),
+                "255 0 0");
         sentence = "write: its length is that of the file, or that up to the last of these bytes, if this is more";
         due("within the file", 8, () -> x.write(2, 0, 0, 7));
         due("up to its end", 8, () -> x.write(2, 7, 0, 1));
